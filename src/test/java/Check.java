@@ -1,0 +1,41 @@
+import java.util.Objects;
+
+/** Counts what is not as due, and ends the program with exit code 1 if there was anything. */
+final class Check {
+    private String part = "";
+    private int asked = 0;
+    private int wrong = 0;
+
+    void part(String name) {
+        part = name;
+    }
+
+    void due(String what, Object got, Object want) {
+        asked++;
+        if (!Objects.equals(got, want)) {
+            wrong++;
+            System.out.println(part + ": " + what + " is " + got + ", due is " + want);
+        }
+    }
+
+    void throwing(String what, Class<? extends RuntimeException> want, Runnable call) {
+        Class<?> got = null;
+        try {
+            call.run();
+        } catch (RuntimeException e) {
+            got = e.getClass();
+        }
+        due(what + " throws", got, want);
+    }
+
+    int wrong() {
+        return wrong;
+    }
+
+    void end() {
+        System.out.println(asked + " answers looked at, " + wrong + " not as due");
+        if (wrong != 0) {
+            System.exit(1);
+        }
+    }
+}
