@@ -51,8 +51,24 @@ public final class FaceTest {
         for (Class<?> inside : CreaturePond.class.getDeclaredClasses()) {
             check.due(inside.getName() + " is static", Modifier.isStatic(inside.getModifiers()), true);
             check.due(inside.getName() + " is not public", Modifier.isPublic(inside.getModifiers()), false);
+            privateNames(check, inside);
         }
+        privateNames(check, CreaturePond.class);
         check.due("NONE", CreaturePond.NONE, -1);
         check.end();
+    }
+
+    /** No private method bears the name of a public one. */
+    private static void privateNames(Check check, Class<?> of) {
+        Set<String> faceNames = new TreeSet<>();
+        for (Method method : CreaturePond.class.getMethods()) {
+            faceNames.add(method.getName());
+        }
+        for (Method method : of.getDeclaredMethods()) {
+            if (Modifier.isPrivate(method.getModifiers())) {
+                check.due(of.getName() + "." + method.getName() + " is a name of the face",
+                        faceNames.contains(method.getName()), false);
+            }
+        }
     }
 }

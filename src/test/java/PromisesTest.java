@@ -16,6 +16,7 @@ public final class PromisesTest {
         test.animal();
         test.animalRefused();
         test.numbersAgain();
+        test.nothingLeftOfAnother();
         test.code();
         test.codeRefused();
         test.cell();
@@ -177,11 +178,11 @@ public final class PromisesTest {
         pond.animal(0, 0, 0, 50);
         pond.animal(1, 0, 0, 2);
         pond.animal(2, 0, 0, 50);
-        pond.code(1, 8, 0x010705_010103_0A07L);
-        pond.code(1, 2, 0x0115L);
+        pond.code(1, 8, 0x010705_010010_0A07L);
+        pond.code(1, 8, 0x00_01010F_0A0701_15L);
         pond.tick(1);
-        check.due("it did something", pond.field(1, 7) + " " + pond.inner(1, false, 3) + " " + pond.field(1, 13)
-                + " " + pond.field(1, 18), "5 5 0 1");
+        check.due("it did something", pond.field(1, 0) + " " + pond.field(1, 7) + " " + pond.inner(1, false, 0) + " "
+                + pond.inner(1, false, 15), "16 5 5 5");
         pond.tick(1);
         check.due("it died", pond.field(1, 0), -1);
         check.due("its number", pond.animal(3, 3, 2, 7), 1);
@@ -189,8 +190,35 @@ public final class PromisesTest {
         for (int w = 0; w < fields.length; w++) {
             check.due("field " + w, pond.field(1, w), fields[w]);
         }
-        check.due("memory is new", pond.inner(1, false, 3), (byte) 0);
+        for (int i = 0; i < 16; i++) {
+            check.due("memory " + i, pond.inner(1, false, i), (byte) 0);
+        }
         check.throwing("no code", INDEX, () -> pond.inner(1, true, 0));
+    }
+
+    private void nothingLeftOfAnother() {
+        check.part("5 nothing is left of one that had the number");
+        CreaturePond pond = new CreaturePond(4, 5);
+        pond.set(0, 1);
+        pond.animal(1, 1, 1, 1000);
+        pond.animal(2, 1, 3, 1000);
+        pond.code(0, 3, 0x151515);
+        pond.code(1, 3, 0x151515);
+        pond.tick(50);
+        pond.tick(50);
+        pond.tick(50);
+        pond.tick(50);
+        check.due("a child that asks", pond.field(2, 12) + " " + pond.field(2, 13) + " " + pond.field(2, 17) + " "
+                + pond.field(2, 18), "199 1 1 1");
+        pond.tick(1);
+        check.due("it died of age", pond.field(2, 12), CreaturePond.NONE);
+        for (int number = 0; number < 3; number++) {
+            check.due("number", pond.animal(number, 4, 2, 7), number);
+        }
+        int[] fields = {0, 0, 0, 0, 0, 0, 0, 0, 2, 4, 2, 7, 0, 0, 0, -1, -1, 0, 0};
+        for (int w = 0; w < fields.length; w++) {
+            check.due("field " + w, pond.field(2, w), fields[w]);
+        }
     }
 
     private void code() {
@@ -311,6 +339,10 @@ public final class PromisesTest {
     private void keepAndBack() {
         check.part("12, 14 keep and back");
         CreaturePond pond = lively();
+        pond.keep();
+        check.due("a birth and a death", pond.tick(1) + " " + pond.total(5) + " " + pond.total(6), "4 1 1");
+        pond.back();
+        check.due("none of them", pond.total(4) + " " + pond.total(5) + " " + pond.total(6), "4 0 0");
         pond.tick(1);
         CreaturePond twin = lively();
         twin.tick(1);
@@ -327,7 +359,7 @@ public final class PromisesTest {
         check.due("it goes on as it did", Told.all(pond), Told.all(twin));
     }
 
-    /** A small pond in which in two ticks all of its parts are in use: births, marks, memory, sun and stream. */
+    /** A small pond in which after a tick all of its parts are in use: births, marks, memory, sun and stream. */
     private static CreaturePond lively() {
         CreaturePond pond = new CreaturePond(3, 3);
         pond.set(2, 1234567);
@@ -336,20 +368,30 @@ public final class PromisesTest {
         pond.animal(0, 0, 1, 100);
         pond.animal(1, 0, 3, 200);
         pond.animal(2, 2, 0, 1);
+        pond.animal(1, 1, 2, 70);
         pond.code(0, 8, 0x010307_0A0303_1516L);
         pond.code(1, 4, 0x010609_15L);
+        pond.code(3, 5, 0x0104E0_1404L);
         return pond;
     }
 
+    /** Lets all die, and others live in their place, so that no part of the pond is left as it was. */
     private static void disturb(CreaturePond pond) {
         pond.set(50, 5);
         pond.store(500);
-        pond.grain(0, 0, 249);
         pond.code(0, 3, 0x141203);
-        pond.tick(9);
-        pond.animal(2, 2, 0, 999);
-        pond.code(pond.cell(2, 2, 2), 3, 0x123456);
-        pond.tick(50);
+        for (int i = 0; i < 5; i++) {
+            pond.tick(50);
+        }
+        for (int i = 0; i < 9; i++) {
+            if (pond.cell(i, i / 3, 2) == CreaturePond.NONE) {
+                int number = pond.animal(i, i / 3, i % 4, 300 + i);
+                pond.code(number, 8, 0x010042_0A0001_14L << 8);
+                pond.code(number, 8, 0x010144_010245_1115L);
+            }
+        }
+        pond.grain(0, 0, 249);
+        pond.tick(3);
     }
 
     private void keepAgain() {

@@ -22,6 +22,7 @@ public final class TickTest {
         test.reckoning();
         test.memory();
         test.jumps();
+        test.operands();
         test.codeGoesRound();
         test.eightOperations();
         test.lookAhead();
@@ -36,6 +37,7 @@ public final class TickTest {
         test.noBirth();
         test.whereBorn();
         test.whoPairs();
+        test.noBirthWithTheDead();
         test.fullPond();
         test.childCode();
         test.generations();
@@ -181,6 +183,26 @@ public final class TickTest {
         register("13 not above 0", 1, 9, 1, 0, 1, 13, 0, 9, 1, 1, 9, ASK);
         check.due("12 modulo the length", after(12, 0, 11, ASK).field(0, 13), 0);
         check.due("13 v & 255", after(1, 0, -1, 13, 0, -2, ASK, ASK).field(0, 13), 7);
+    }
+
+    private void operands() {
+        check.part("7 operands");
+        int[] counts = {0, 2, 2, 2, 2, 2, 2, 1, 1, 2, 2, 1, 2, 2, 2, 2, 1, 0, 0, 1, 1, 0};
+        for (int operation = 0; operation < 22; operation++) {
+            if (operation < 11 || operation > 13) {
+                // What is done next asks, and stands at its own number's distance.
+                CreaturePond pond = after(operation, ASK, ASK, ASK, ASK);
+                int asks = operation < TURN ? 1 : 0;
+                check.due("place behind " + operation, pond.field(0, 13), 1 + counts[operation] + asks);
+            }
+        }
+        check.due("place behind 12 that does not jump", after(1, 5, 1, 12, 5, 0, ASK, ASK).field(0, 13), 7);
+        check.due("place behind 13 that does not jump", after(13, 5, 0, ASK, ASK).field(0, 13), 4);
+        register("12 looks at r & 7", 1, 9, 1, 7, 1, 12, 15, 9, 1, 1, 9, ASK);
+        register("13 looks at r & 7", 1, 0, 1, 7, -1, 13, 15, 9, 1, 1, 9, ASK);
+        register("3 r & 7", 7, 6, 1, 7, 3, 3, 15, 23, ASK);
+        register("8 keeps the lowest bits", 0, 0, 1, 0, 1, 8, 0, ASK);
+        register("8 of 3", 0, 1, 1, 0, 3, 8, 0, ASK);
     }
 
     private void codeGoesRound() {
@@ -378,6 +400,8 @@ public final class TickTest {
         check.due("STORE", pond.total(2), 22);
         check.due("births", pond.total(5), 1);
         check.due("all", pond.total(3), 183);
+        check.due("its one byte is changed", pond.inner(2, true, 0), (byte) (streamAfter(0, 4) >>> 16));
+        check.due("five numbers are taken", pond.total(8), streamAfter(0, 5));
         pond.tick(1);
         check.due("it ages then", pond.field(2, 12), 1);
         check.due("no more births below 40", pond.total(5), 1);
@@ -460,6 +484,20 @@ public final class TickTest {
         low.tick(16);
         check.due("parents dead", low.field(1, 0) + " " + low.field(2, 0), "-1 -1");
         check.due("parents told", low.field(3, 15) + " " + low.field(3, 16), "1 2");
+    }
+
+    private void noBirthWithTheDead() {
+        check.part("7 no birth with the dead");
+        CreaturePond pond = new CreaturePond(4, 5);
+        put(pond, 1, 1, 1, 1000, ASK);
+        pond.tick(50);
+        pond.tick(50);
+        pond.tick(50);
+        pond.tick(49);
+        put(pond, 2, 1, 3, 500, 0, 0, 0, 0, 0, 0, 0, 0, ASK);
+        check.due("it asks and dies of age", pond.tick(1) + " " + pond.field(0, 18), "1 -1");
+        check.due("the other one asks too late", pond.tick(1) + " " + pond.field(1, 18), "1 1");
+        check.due("births", pond.total(5), 0);
     }
 
     private void fullPond() {
