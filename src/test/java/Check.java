@@ -6,6 +6,18 @@ final class Check {
     private int asked = 0;
     private int wrong = 0;
 
+    /** Runs all parts, each of them also when an earlier one ended with an exception that is not due. */
+    void each(Runnable... parts) {
+        for (Runnable one : parts) {
+            try {
+                one.run();
+            } catch (RuntimeException e) {
+                wrong++;
+                System.out.println(part + ": ended by " + e + " at " + e.getStackTrace()[0]);
+            }
+        }
+    }
+
     void part(String name) {
         part = name;
     }

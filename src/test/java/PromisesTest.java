@@ -1,33 +1,12 @@
 /** What promises 1 to 6 and 8 to 14 ask: ordinary inputs, the edges that the document names, and wrong inputs. */
-public final class PromisesTest {
-    private static final Class<IllegalArgumentException> ARGUMENT = IllegalArgumentException.class;
-    private static final Class<IllegalStateException> STATE = IllegalStateException.class;
-    private static final Class<IndexOutOfBoundsException> INDEX = IndexOutOfBoundsException.class;
-
-    private final Check check = new Check();
-
+public final class PromisesTest extends Ponds {
     public static void main(String[] args) {
         PromisesTest test = new PromisesTest();
-        test.newObject();
-        test.sizes();
-        test.set();
-        test.store();
-        test.grain();
-        test.animal();
-        test.animalRefused();
-        test.numbersAgain();
-        test.nothingLeftOfAnother();
-        test.code();
-        test.codeRefused();
-        test.cell();
-        test.field();
-        test.inner();
-        test.total();
-        test.keepAndBack();
-        test.keepAgain();
-        test.differ();
-        test.differInAnimal();
-        test.refusedChangesNothing();
+        test.check.each(
+                test::newObject, test::sizes, test::set, test::store, test::grain, test::animal, test::animalRefused,
+                test::numbersAgain, test::nothingLeftOfAnother, test::code, test::codeRefused, test::cell,
+                test::field, test::inner, test::total, test::keepAndBack, test::keepAgain, test::differ,
+                test::differInAnimal, test::refusedChangesNothing);
         test.check.end();
     }
 

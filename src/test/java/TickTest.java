@@ -1,70 +1,15 @@
 /** What promise 7 and the terms ask of a tick: the sun, each operation, breeding and death. */
-public final class TickTest {
-    private static final Class<IllegalArgumentException> ARGUMENT = IllegalArgumentException.class;
-
-    // The codes of acts, which end what an animal does in a tick.
-    private static final int TURN = 16;
-    private static final int STEP = 17;
-    private static final int EAT = 18;
-    private static final int GIVE = 19;
-    private static final int MARK = 20;
-    private static final int ASK = 21;
-
-    private final Check check = new Check();
-
+public final class TickTest extends Ponds {
     public static void main(String[] args) {
         TickTest test = new TickTest();
-        test.calls();
-        test.sun();
-        test.sunOnFullCells();
-        test.payAndAge();
-        test.operationNumbers();
-        test.reckoning();
-        test.memory();
-        test.jumps();
-        test.operands();
-        test.codeGoesRound();
-        test.eightOperations();
-        test.lookAhead();
-        test.lookInside();
-        test.turning();
-        test.stepping();
-        test.eating();
-        test.giving();
-        test.marking();
-        test.order();
-        test.birth();
-        test.noBirth();
-        test.whereBorn();
-        test.whoPairs();
-        test.noBirthWithTheDead();
-        test.fullPond();
-        test.childCode();
-        test.generations();
-        test.death();
-        test.energyStays();
+        test.check.each(
+                test::calls, test::sun, test::sunOnFullCells, test::payAndAge, test::operationNumbers,
+                test::reckoning, test::memory, test::jumps, test::operands, test::codeGoesRound,
+                test::eightOperations, test::lookAhead, test::lookInside, test::turning, test::stepping, test::eating,
+                test::giving, test::marking, test::order, test::birth, test::noBirth, test::whereBorn, test::whoPairs,
+                test::noBirthWithTheDead, test::fullPond, test::childCode, test::generations, test::death,
+                test::energyStays);
         test.check.end();
-    }
-
-    /** A new animal with a code: its number. */
-    private static int put(CreaturePond pond, int x, int y, int heading, int energy, int... code) {
-        int number = pond.animal(x, y, heading, energy);
-        for (int gene : code) {
-            pond.code(number, 1, gene);
-        }
-        return number;
-    }
-
-    /** A pond in whose middle one animal, heading up and with 100 energy, has lived for one tick. */
-    private static CreaturePond after(int... code) {
-        CreaturePond pond = new CreaturePond(3, 3);
-        put(pond, 1, 1, 0, 100, code);
-        pond.tick(1);
-        return pond;
-    }
-
-    private void register(String what, int number, int want, int... code) {
-        check.due(what, after(code).field(0, number), want);
     }
 
     private void calls() {
@@ -377,15 +322,6 @@ public final class TickTest {
         check.due("the sun comes first", sunny.field(0, 11), 2);
     }
 
-    /** A pond of 4 by 5 cells in which 0 at 1, 1 and 1 at 2, 1 face each other and ask. */
-    private static CreaturePond pair(int stream, int energy, int otherEnergy) {
-        CreaturePond pond = new CreaturePond(4, 5);
-        pond.set(0, stream);
-        put(pond, 1, 1, 1, energy, ASK);
-        put(pond, 2, 1, 3, otherEnergy, ASK);
-        return pond;
-    }
-
     private void birth() {
         check.part("7 birth");
         CreaturePond pond = pair(0, 101, 82);
@@ -400,7 +336,7 @@ public final class TickTest {
         check.due("STORE", pond.total(2), 22);
         check.due("births", pond.total(5), 1);
         check.due("all", pond.total(3), 183);
-        check.due("its one byte is changed", pond.inner(2, true, 0), (byte) (streamAfter(0, 4) >>> 16));
+        check.due("its one byte is changed", pond.inner(2, true, 0), (byte) streamNumber(0, 4));
         check.due("five numbers are taken", pond.total(8), streamAfter(0, 5));
         pond.tick(1);
         check.due("it ages then", pond.field(2, 12), 1);
@@ -517,8 +453,6 @@ public final class TickTest {
         check.due("one birth", pond.total(5), 1);
     }
 
-    private static final int FACTOR = 134775813;
-
     /** The code of the child of a pair whose codes are ASK and then 10, 11 .. and ASK and then 30, 31 .. */
     private static String childOf(int stream, int length, int otherLength) {
         CreaturePond pond = pair(stream, 200, 200);
@@ -529,33 +463,7 @@ public final class TickTest {
             pond.code(1, 1, 29 + i);
         }
         pond.tick(1);
-        StringBuilder text = new StringBuilder();
-        for (int i = 0; i < pond.field(2, 14); i++) {
-            text.append(i == 0 ? "" : " ").append(pond.inner(2, true, i));
-        }
-        return text.append(" | ").append(pond.total(8)).toString();
-    }
-
-    private static int streamAfter(int stream, int numbers) {
-        int x = stream;
-        for (int i = 0; i < numbers; i++) {
-            x = x * FACTOR + 1;
-        }
-        return x;
-    }
-
-    /** A stream whose next numbers are such that the child's code is cut at from and to, and changed or not. */
-    private static int streamFor(int start, int length, int from, int to, boolean changed) {
-        int x = start;
-        for (int i = 0; i < 100000; i++, x += 7919) {
-            int a = x >>> 16;
-            int b = streamAfter(x, 1) >>> 16;
-            int c = streamAfter(x, 2) >>> 16;
-            if (a % (length + 1) == from && b % 8 == to - from && c % 4 == 0 == changed) {
-                return x;
-            }
-        }
-        throw new IllegalStateException("no such stream");
+        return Told.code(pond, 2) + " | " + pond.total(8);
     }
 
     private void child(int length, int otherLength, int from, int to, String want) {
@@ -581,7 +489,7 @@ public final class TickTest {
         child(20, 20, 17, 24, "21 10 11 12 13 14 15 16 17 18 19 20 21 22 23 24 25 46 47 48");
         int stream = streamFor(1, 5, 1, 3, true);
         String[] due = {"21", "30", "31", "12", "13"};
-        due[(streamAfter(stream, 3) >>> 16) % 5] = Byte.toString((byte) (streamAfter(stream, 4) >>> 16));
+        due[streamNumber(stream, 3) % 5] = Byte.toString((byte) streamNumber(stream, 4));
         check.due("a changed byte", childOf(stream, 5, 5), String.join(" ", due) + " | " + streamAfter(stream, 5));
     }
 
