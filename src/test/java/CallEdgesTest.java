@@ -109,7 +109,8 @@ public final class CallEdgesTest extends Ponds {
         check.part("3: or if it would be above 1000000");
         for (int less : new int[] {0, 1, 2, 9999, 10000}) {
             CreaturePond pond = stored(less);
-            check.due(less + " less and 1 more", pond.store(less + 1) + " " + pond.total(STORE), "false " + (1000000 - less));
+            check.due(less + " less and 1 more", pond.store(less + 1) + " " + pond.total(STORE),
+                    "false " + (1000000 - less));
             check.due(less + " less", pond.store(less) + " " + pond.total(STORE), "true 1000000");
             check.due("1 more then", pond.store(1) + " " + pond.total(STORE), "false 1000000");
             check.due("10000 more then", pond.store(10000) + " " + pond.total(STORE), "false 1000000");
@@ -184,13 +185,8 @@ public final class CallEdgesTest extends Ponds {
         // It asks in its last tick.
         pond.tick(1);
         check.due("a new one", pond.animal(3, 2, 2, 7), 0);
-        int[] due = {0, 0, 0, 0, 0, 0, 0, 0, 3, 2, 2, 7, 0, 0, 0, NONE, NONE, 0, 0};
-        for (int w = 0; w < due.length; w++) {
-            check.due("w " + w, pond.field(0, w), due[w]);
-        }
-        for (int i = 0; i < 16; i++) {
-            check.due("memory " + i, pond.inner(0, false, i), (byte) 0);
-        }
+        fields(pond, 0, 0, 0, 0, 0, 0, 0, 0, 0, 3, 2, 2, 7, 0, 0, 0, NONE, NONE, 0, 0);
+        emptyMemory(pond, 0);
         check.throwing("code", INDEX, () -> pond.inner(0, true, 0));
     }
 
@@ -307,10 +303,7 @@ public final class CallEdgesTest extends Ponds {
         CreaturePond pond = new CreaturePond(4, 5);
         put(pond, 2, 3, 1, 60, 1, 0, 10, 1, 7, 17, ASK);
         pond.tick(1);
-        int[] due = {10, 0, 0, 0, 0, 0, 0, 17, 2, 3, 1, 59, 1, 0, 7, NONE, NONE, 0, 1};
-        for (int w = 0; w < due.length; w++) {
-            check.due("w " + w, pond.field(0, w), due[w]);
-        }
+        fields(pond, 0, 10, 0, 0, 0, 0, 0, 0, 17, 2, 3, 1, 59, 1, 0, 7, NONE, NONE, 0, 1);
         for (int w : new int[] {-1, 19, MIN, MAX}) {
             check.due("w " + w, pond.field(0, w), NONE);
         }
@@ -382,10 +375,7 @@ public final class CallEdgesTest extends Ponds {
         pond.animal(0, 4, 0, 1);
         pond.grain(3, 3, 7);
         pond.tick(1);
-        int[] due = {178, 10, 70, 258, 3, 1, 1, 1, streamAfter(4, streamNumber(4, 2) % 4 == 0 ? 5 : 3), 3};
-        for (int which = 0; which < due.length; which++) {
-            check.due("which " + which, pond.total(which), due[which]);
-        }
+        totals(pond, 178, 10, 70, 258, 3, 1, 1, 1, streamAfter(4, streamNumber(4, 2) % 4 == 0 ? 5 : 3), 3);
         for (int which : new int[] {-1, 10, MIN, MAX}) {
             check.due("which " + which, pond.total(which), NONE);
         }
@@ -527,8 +517,8 @@ public final class CallEdgesTest extends Ponds {
             pond.grain(0, 0, 10 + i);
             pond.tick(i);
             check.due("it differs", pond.differ(), 0);
-            check.due("back", pond.back() + " " + pond.cell(0, 0, 0) + " " + pond.field(0, ENERGY) + " " + pond.differ(),
-                    "true 5 50 -1");
+            check.due("back", pond.back() + " " + pond.cell(0, 0, 0) + " " + pond.field(0, ENERGY) + " "
+                    + pond.differ(), "true 5 50 -1");
             check.due("back at once", pond.back() + " " + pond.cell(0, 0, 0), "true 5");
         }
     }
@@ -581,11 +571,11 @@ public final class CallEdgesTest extends Ponds {
             pond.back();
             return pond;
         };
-        check.due("at once", Told.all(3, 3, taken), due);
-        check.due("later", told(taken, pond -> pond.tick(9)), told(CallEdgesTest::busy, pond -> pond.tick(9)));
-        check.due("the SUN", told(taken, pond -> pond.store(1000) ? pond.tick(9) : -1),
+        check.dueText("at once", Told.all(3, 3, taken), due);
+        check.dueText("later", told(taken, pond -> pond.tick(9)), told(CallEdgesTest::busy, pond -> pond.tick(9)));
+        check.dueText("the SUN", told(taken, pond -> pond.store(1000) ? pond.tick(9) : -1),
                 told(CallEdgesTest::busy, pond -> pond.store(1000) ? pond.tick(9) : -1));
-        check.due("again", told(taken, pond -> pond.tick(9) + " " + pond.back()), due);
+        check.dueText("again", told(taken, pond -> pond.tick(9) + " " + pond.back()), due);
     }
 
     /** All that is told of a pond of 3 by 3 cells after a call. */
@@ -628,11 +618,13 @@ public final class CallEdgesTest extends Ponds {
         same(name + ", the kept pond", call, CreaturePond::back);
         CreaturePond asked = made.get();
         answer(asked, call);
-        check.due(name + ", what differs", answer(asked, CreaturePond::differ), answer(made.get(), CreaturePond::differ));
+        check.due(name + ", what differs", answer(asked, CreaturePond::differ),
+                answer(made.get(), CreaturePond::differ));
     }
 
     private void same(String name, Function<CreaturePond, Object> call, Function<CreaturePond, Object> then) {
-        check.due(name, told(w, h, made, pond -> answer(pond, call) + " " + answer(pond, then)), told(w, h, made, then));
+        check.dueText(name, told(w, h, made, pond -> answer(pond, call) + " " + answer(pond, then)),
+                told(w, h, made, then));
     }
 
     private void refused() {

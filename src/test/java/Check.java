@@ -30,6 +30,21 @@ final class Check {
         }
     }
 
+    /** The same for texts of many lines: it prints the first lines that are not the same. */
+    void dueText(String what, String got, String want) {
+        String[] found = got.split("\n");
+        String[] lines = want.split("\n");
+        int line = 0;
+        while (line < found.length - 1 && line < lines.length - 1 && found[line].equals(lines[line])) {
+            line++;
+        }
+        if (got.equals(want) || found[line].equals(lines[line])) {
+            due(what + ": how many lines", found.length, lines.length);
+        } else {
+            due(what, found[line], lines[line]);
+        }
+    }
+
     void throwing(String what, Class<? extends RuntimeException> want, Runnable call) {
         Class<?> got = null;
         try {

@@ -1,6 +1,6 @@
 import java.util.Arrays;
 
-/** The sentences on OPERATIONS and ACTS that name a boundary, one test for each: the last value, and the first beyond. */
+/** The sentences on OPERATIONS and ACTS that name a boundary, one test for each: the last value, the first beyond. */
 public final class OperationEdgesTest extends Ponds {
     private static final int[] OPERANDS = {0, 2, 2, 2, 2, 2, 2, 1, 1, 2, 2, 1, 2, 2, 2, 2, 1, 0, 0, 1, 1, 0};
 
@@ -36,7 +36,7 @@ public final class OperationEdgesTest extends Ponds {
     private void operationNumbers() {
         check.part("Operations: operation (b & 255) % 22");
         for (int b = 22; b < 256; b++) {
-            check.due("byte " + b, withoutCode(beside(b, 2, 6, ASK, 0, 0, ASK, ASK, ASK)),
+            check.dueText("byte " + b, withoutCode(beside(b, 2, 6, ASK, 0, 0, ASK, ASK, ASK)),
                     withoutCode(beside(b % 22, 2, 6, ASK, 0, 0, ASK, ASK, ASK)));
         }
         check.due("21 asks", after(21).field(0, ASKED), 1);
@@ -71,7 +71,8 @@ public final class OperationEdgesTest extends Ponds {
                 11, 18, 0, 0, 0, 0, 0, 0, 0, 0, 0, 0, 0, 0, 0, 0, 0, 0, 1, 3);
         register("the longest code, both behind its end", 3, 19,
                 11, 19, ASK, 0, 0, 0, 0, 0, 0, 0, 0, 0, 0, 0, 0, 0, 0, 0, 0, 1);
-        check.due("a jump's one behind the end", after(12, 44, 66, 22, 22, 22, 22, 22, 22, 22, 22, 11).field(0, PLACE), 6);
+        check.due("a jump's one behind the end",
+                after(12, 44, 66, 22, 22, 22, 22, 22, 22, 22, 22, 11).field(0, PLACE), 6);
     }
 
     private void shortestCodes() {
@@ -125,10 +126,14 @@ public final class OperationEdgesTest extends Ponds {
     private void sameByLowestBits(int operation, boolean first, int mask, int other) {
         for (int b = 0; b < 256; b++) {
             int low = b & mask;
-            CreaturePond whole = beside(1, 0, 35, 1, 7, -3, 1, 6, 90, operation, first ? b : other, first ? other : b, ASK);
-            CreaturePond cut = beside(1, 0, 35, 1, 7, -3, 1, 6, 90, operation, first ? low : other, first ? other : low, ASK);
-            check.due("operation " + operation + " of " + b, withoutCode(whole), withoutCode(cut));
+            check.dueText("operation " + operation + " of " + b,
+                    withoutCode(loadedBeside(operation, first ? b : other, first ? other : b)),
+                    withoutCode(loadedBeside(operation, first ? low : other, first ? other : low)));
         }
+    }
+
+    private static CreaturePond loadedBeside(int operation, int first, int second) {
+        return beside(1, 0, 35, 1, 7, -3, 1, 6, 90, operation, first, second, ASK);
     }
 
     private void registersByThreeBits() {

@@ -52,6 +52,26 @@ abstract class Ponds {
         check.due(what, after(code).field(0, number), want);
     }
 
+    /** All that field tells of an animal. */
+    void fields(CreaturePond pond, int number, int... due) {
+        for (int w = 0; w < due.length; w++) {
+            check.due("field " + w, pond.field(number, w), due[w]);
+        }
+    }
+
+    void emptyMemory(CreaturePond pond, int number) {
+        for (int i = 0; i < 16; i++) {
+            check.due("memory " + i, pond.inner(number, false, i), (byte) 0);
+        }
+    }
+
+    /** All that total tells. */
+    void totals(CreaturePond pond, int... due) {
+        for (int which = 0; which < due.length; which++) {
+            check.due("total " + which, pond.total(which), due[which]);
+        }
+    }
+
     /** A pond of 4 by 5 cells in which 0 at 1, 1 and 1 at 2, 1 face each other and ask. */
     static CreaturePond pair(int stream, int energy, int otherEnergy) {
         CreaturePond pond = new CreaturePond(4, 5);

@@ -6,7 +6,7 @@ public final class PromisesTest extends Ponds {
                 test::newObject, test::sizes, test::set, test::store, test::grain, test::animal, test::animalRefused,
                 test::numbersAgain, test::nothingLeftOfAnother, test::code, test::codeRefused, test::cell,
                 test::field, test::inner, test::total, test::keepAndBack, test::keepAgain, test::differ,
-                test::differInAnimal, test::refusedChangesNothing);
+                test::differInAnimal);
         test.check.end();
     }
 
@@ -122,13 +122,8 @@ public final class PromisesTest extends Ponds {
         CreaturePond pond = new CreaturePond(4, 5);
         check.due("first", pond.animal(-1, 6, 3, 1000), 0);
         check.due("second", pond.animal(0, 0, 0, 1), 1);
-        int[] fields = {0, 0, 0, 0, 0, 0, 0, 0, 3, 1, 3, 1000, 0, 0, 0, -1, -1, 0, 0};
-        for (int w = 0; w < fields.length; w++) {
-            check.due("field " + w, pond.field(0, w), fields[w]);
-        }
-        for (int i = 0; i < 16; i++) {
-            check.due("memory " + i, pond.inner(0, false, i), (byte) 0);
-        }
+        fields(pond, 0, 0, 0, 0, 0, 0, 0, 0, 0, 3, 1, 3, 1000, 0, 0, 0, -1, -1, 0, 0);
+        emptyMemory(pond, 0);
         check.due("in its cell", pond.cell(3, 1, 2), 0);
         check.due("no birth", pond.total(5), 0);
     }
@@ -165,13 +160,8 @@ public final class PromisesTest extends Ponds {
         pond.tick(1);
         check.due("it died", pond.field(1, 0), -1);
         check.due("its number", pond.animal(3, 3, 2, 7), 1);
-        int[] fields = {0, 0, 0, 0, 0, 0, 0, 0, 3, 3, 2, 7, 0, 0, 0, -1, -1, 0, 0};
-        for (int w = 0; w < fields.length; w++) {
-            check.due("field " + w, pond.field(1, w), fields[w]);
-        }
-        for (int i = 0; i < 16; i++) {
-            check.due("memory " + i, pond.inner(1, false, i), (byte) 0);
-        }
+        fields(pond, 1, 0, 0, 0, 0, 0, 0, 0, 0, 3, 3, 2, 7, 0, 0, 0, -1, -1, 0, 0);
+        emptyMemory(pond, 1);
         check.throwing("no code", INDEX, () -> pond.inner(1, true, 0));
     }
 
@@ -194,10 +184,7 @@ public final class PromisesTest extends Ponds {
         for (int number = 0; number < 3; number++) {
             check.due("number", pond.animal(number, 4, 2, 7), number);
         }
-        int[] fields = {0, 0, 0, 0, 0, 0, 0, 0, 2, 4, 2, 7, 0, 0, 0, -1, -1, 0, 0};
-        for (int w = 0; w < fields.length; w++) {
-            check.due("field " + w, pond.field(2, w), fields[w]);
-        }
+        fields(pond, 2, 0, 0, 0, 0, 0, 0, 0, 0, 2, 4, 2, 7, 0, 0, 0, -1, -1, 0, 0);
     }
 
     private void code() {
@@ -260,10 +247,7 @@ public final class PromisesTest extends Ponds {
         pond.animal(2, 3, 1, 60);
         pond.code(0, 7, 0x01077F_010281_15L);
         pond.tick(1);
-        int[] fields = {0, 0, -127, 0, 0, 0, 0, 127, 2, 3, 1, 59, 1, 0, 7, -1, -1, 0, 1};
-        for (int w = 0; w < fields.length; w++) {
-            check.due("field " + w, pond.field(0, w), fields[w]);
-        }
+        fields(pond, 0, 0, 0, -127, 0, 0, 0, 0, 127, 2, 3, 1, 59, 1, 0, 7, -1, -1, 0, 1);
         pond.tick(0);
         check.due("asked in the latest tick still", pond.field(0, 18), 1);
         check.due("w 19", pond.field(0, 19), CreaturePond.NONE);
@@ -307,70 +291,26 @@ public final class PromisesTest extends Ponds {
         pond.animal(1, 0, 0, 1);
         pond.tick(3);
         // STORE: 20 - 5 + 2, then 17 - 5 + 1, then 13 - 5 + 1; whose turn it is: 15 of 12 cells.
-        int[] totals = {27, 115, 9, 151, 1, 0, 1, 3, 123, 3};
-        for (int which = 0; which < totals.length; which++) {
-            check.due("total " + which, pond.total(which), totals[which]);
-        }
+        totals(pond, 27, 115, 9, 151, 1, 0, 1, 3, 123, 3);
         check.due("total 10", pond.total(10), CreaturePond.NONE);
         check.due("total -1", pond.total(-1), CreaturePond.NONE);
     }
 
     private void keepAndBack() {
         check.part("12, 14 keep and back");
-        CreaturePond pond = lively();
+        CreaturePond pond = pair(1234567, 100, 200);
+        put(pond, 0, 4, 0, 1, ASK);
         pond.keep();
-        check.due("a birth and a death", pond.tick(1) + " " + pond.total(5) + " " + pond.total(6), "4 1 1");
-        pond.back();
-        check.due("none of them", pond.total(4) + " " + pond.total(5) + " " + pond.total(6), "4 0 0");
-        pond.tick(1);
-        CreaturePond twin = lively();
-        twin.tick(1);
-        pond.keep();
-        check.due("nothing differs", pond.differ(), CreaturePond.NONE);
-        disturb(pond);
-        check.due("back", pond.back(), true);
-        check.due("nothing differs after back", pond.differ(), CreaturePond.NONE);
-        check.due("all is as it was", Told.all(pond), Told.all(twin));
-        disturb(pond);
-        check.due("it stays kept", pond.back(), true);
-        pond.tick(5);
-        twin.tick(5);
-        check.due("it goes on as it did", Told.all(pond), Told.all(twin));
-    }
-
-    /** A small pond in which after a tick all of its parts are in use: births, marks, memory, sun and stream. */
-    private static CreaturePond lively() {
-        CreaturePond pond = new CreaturePond(3, 3);
-        pond.set(2, 1234567);
-        pond.store(50);
-        pond.grain(2, 2, 40);
-        pond.animal(0, 0, 1, 100);
-        pond.animal(1, 0, 3, 200);
-        pond.animal(2, 2, 0, 1);
-        pond.animal(1, 1, 2, 70);
-        pond.code(0, 8, 0x010307_0A0303_1516L);
-        pond.code(1, 4, 0x010609_15L);
-        pond.code(3, 5, 0x0104E0_1404L);
-        return pond;
-    }
-
-    /** Lets all die, and others live in their place, so that no part of the pond is left as it was. */
-    private static void disturb(CreaturePond pond) {
-        pond.set(50, 5);
-        pond.store(500);
-        pond.code(0, 3, 0x141203);
-        for (int i = 0; i < 5; i++) {
-            pond.tick(50);
+        for (int i = 0; i < 3; i++) {
+            check.due("a birth and a death", pond.tick(1) + " " + pond.total(5) + " " + pond.total(6), "3 1 1");
+            check.due("the first cell that differs", pond.differ(), 1);
+            check.due("back", pond.back(), true);
+            totals(pond, 301, 0, 0, 301, 3, 0, 0, 0, 1234567, 0);
+            fields(pond, 0, 0, 0, 0, 0, 0, 0, 0, 0, 1, 1, 1, 100, 0, 0, 1, -1, -1, 0, 0);
+            fields(pond, 2, 0, 0, 0, 0, 0, 0, 0, 0, 0, 4, 0, 1, 0, 0, 1, -1, -1, 0, 0);
+            check.due("no child", pond.cell(1, 0, 2), CreaturePond.NONE);
+            check.due("nothing differs", pond.differ(), CreaturePond.NONE);
         }
-        for (int i = 0; i < 9; i++) {
-            if (pond.cell(i, i / 3, 2) == CreaturePond.NONE) {
-                int number = pond.animal(i, i / 3, i % 4, 300 + i);
-                pond.code(number, 8, 0x010042_0A0001_14L << 8);
-                pond.code(number, 8, 0x010144_010245_1115L);
-            }
-        }
-        pond.grain(0, 0, 249);
-        pond.tick(3);
     }
 
     private void keepAgain() {
@@ -449,33 +389,5 @@ public final class PromisesTest extends Ponds {
         check.due("died with its mark left", marked.cell(0, 2, 1) + " " + marked.cell(0, 2, 2), "3 -1");
         marked.animal(0, 2, 0, 2);
         check.due("the mark alone", marked.differ(), 8);
-    }
-
-    private void refusedChangesNothing() {
-        check.part("refused calls change nothing");
-        CreaturePond pond = lively();
-        CreaturePond twin = lively();
-        pond.tick(1);
-        twin.tick(1);
-        pond.set(51, 99);
-        pond.store(10001);
-        pond.grain(0, 0, 251);
-        check.due("back", pond.back(), false);
-        check.throwing("differ", STATE, pond::differ);
-        check.throwing("animal in a full cell", STATE, () -> pond.animal(0, 0, 3, 7));
-        check.throwing("animal of no heading", ARGUMENT, () -> pond.animal(2, 1, 4, 7));
-        check.throwing("code too long", STATE, () -> {
-            pond.code(0, 8, 0);
-            pond.code(0, 8, -1);
-        });
-        twin.code(0, 8, 0);
-        check.throwing("code for none", ARGUMENT, () -> pond.code(9, 1, 1));
-        check.throwing("tick", ARGUMENT, () -> pond.tick(51));
-        check.throwing("tick", ARGUMENT, () -> pond.tick(-1));
-        check.throwing("inner", INDEX, () -> pond.inner(0, true, 20));
-        check.due("cell", pond.cell(0, 0, 3), CreaturePond.NONE);
-        check.due("field", pond.field(0, 19), CreaturePond.NONE);
-        check.due("total", pond.total(10), CreaturePond.NONE);
-        check.due("all is as it was", Told.all(pond), Told.all(twin));
     }
 }

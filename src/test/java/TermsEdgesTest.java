@@ -70,7 +70,8 @@ public final class TermsEdgesTest extends Ponds {
         pond.tick(1);
         int toX = pond.field(0, X);
         int toY = pond.field(0, Y);
-        return toX + " " + toY + (pond.cell(toX, toY, 2) == 0 && pond.cell(x, y, 2) == -1 ? "" : " but not in its cell");
+        boolean moved = pond.cell(toX, toY, 2) == 0 && pond.cell(x, y, 2) == -1;
+        return toX + " " + toY + (moved ? "" : " but not in its cell");
     }
 
     private void stepsGoRound() {
@@ -353,25 +354,20 @@ public final class TermsEdgesTest extends Ponds {
         check.throwing("21", STATE, () -> pond.code(0, 1, 21));
         check.due("still 20", pond.field(0, LENGTH) + " " + pond.inner(0, true, 19), "20 20");
         for (int n = 1; n <= 8; n++) {
-            CreaturePond other = new CreaturePond(3, 3);
-            other.animal(0, 0, 0, 50);
-            for (int i = 0; i < 20 - n; i++) {
-                other.code(0, 1, 5);
-            }
             int bytes = n;
-            check.due(n + " more to 20", other.code(0, n, 7), 20);
-            check.throwing(n + " more than 20", STATE, () -> other.code(0, bytes, 7));
+            CreaturePond enough = withCode(20 - n);
+            check.due(n + " more to 20", enough.code(0, n, 7), 20);
+            CreaturePond more = withCode(21 - n);
+            check.throwing(n + " more to 21", STATE, () -> more.code(0, bytes, 7));
+            check.due("as it was", more.field(0, LENGTH), 21 - n);
         }
-        for (int n = 2; n <= 8; n++) {
-            CreaturePond other = new CreaturePond(3, 3);
-            other.animal(0, 0, 0, 50);
-            for (int i = 0; i < 21 - n; i++) {
-                other.code(0, 1, 5);
-            }
-            int bytes = n;
-            check.throwing(n + " more to 21", STATE, () -> other.code(0, bytes, 7));
-            check.due("as it was", other.field(0, LENGTH), 21 - n);
-        }
+    }
+
+    /** A pond in which one animal has a code of this length. */
+    private static CreaturePond withCode(int length) {
+        CreaturePond pond = new CreaturePond(3, 3);
+        put(pond, 0, 0, 0, 50, new int[length]);
+        return pond;
     }
 
     private void childCodeLength() {

@@ -366,7 +366,8 @@ public final class TickEdgesTest extends Ponds {
             check.due("taken " + Integer.toBinaryString(taken), pond.total(BIRTHS), free < 4 ? 1 : 0);
             check.due("nothing paid but 1 and 10", pond.total(STORE), child + (free < 4 ? 20 : 0));
             if (free < 4) {
-                check.due("where, by " + Integer.toBinaryString(taken), pond.cell(2 + RIGHT[free], 2 + DOWN[free], 2), child);
+                check.due("where, by " + Integer.toBinaryString(taken),
+                        pond.cell(2 + RIGHT[free], 2 + DOWN[free], 2), child);
                 check.due("its heading", pond.field(child, HEADING), heading);
             }
         }
@@ -406,8 +407,8 @@ public final class TickEdgesTest extends Ponds {
         CreaturePond full = crowd(16);
         full.set(0, 9);
         check.due("16", full.tick(1), 16);
-        check.due("no birth, no price, no number", full.total(BIRTHS) + " " + full.total(STORE) + " " + full.total(STREAM)
-                + " " + full.field(0, ENERGY) + " " + full.cell(0, 9, 2), "0 16 9 199 -1");
+        check.due("no birth, no price, no number", full.total(BIRTHS) + " " + full.total(STORE) + " "
+                + full.total(STREAM) + " " + full.field(0, ENERGY) + " " + full.cell(0, 9, 2), "0 16 9 199 -1");
         CreaturePond last = crowd(15);
         last.tick(1);
         check.due("the 16th", last.field(15, 15) + " " + last.cell(0, 9, 2), "0 15");
@@ -447,7 +448,8 @@ public final class TickEdgesTest extends Ponds {
         }
         CreaturePond odd = pair(9, 42, 42);
         odd.tick(1);
-        check.due("41 and 41", odd.field(0, ENERGY) + " " + odd.field(1, ENERGY) + " " + odd.field(2, ENERGY), "16 16 30");
+        check.due("41 and 41", odd.field(0, ENERGY) + " " + odd.field(1, ENERGY) + " " + odd.field(2, ENERGY),
+                "16 16 30");
     }
 
     /** A pond after a tick in which 0 and 1 had a child, 2, that stands at 1, 0, heads right, and will ask. */
@@ -483,7 +485,8 @@ public final class TickEdgesTest extends Ponds {
         other.animal(0, 1, 0, 50);
         other.tick(1);
         int child = other.cell(2, 5, 2);
-        check.due("of 0 and 1", other.field(child, 15) + " " + other.field(child, 16) + " " + other.field(child, 17), "3 4 2");
+        check.due("of 0 and 1", other.field(child, 15) + " " + other.field(child, 16) + " " + other.field(child, 17),
+                "3 4 2");
     }
 
     private void childIsNew() {
@@ -502,9 +505,7 @@ public final class TickEdgesTest extends Ponds {
         for (int w = 0; w < 8; w++) {
             check.due("register " + w, pond.field(2, w), 0);
         }
-        for (int i = 0; i < 16; i++) {
-            check.due("memory " + i, pond.inner(2, false, i), (byte) 0);
-        }
+        emptyMemory(pond, 2);
         check.due("age and place", pond.field(2, AGE) + " " + pond.field(2, PLACE), "0 0");
     }
 
@@ -521,17 +522,22 @@ public final class TickEdgesTest extends Ponds {
         return Told.code(pond, 2);
     }
 
+    /** The code of a child whose parents' codes have these lengths and are cut at these places. */
+    private void child(String what, int length, int otherLength, int from, int to, String due) {
+        check.due(what, childCode(length, otherLength, streamFor(1, length, from, to, false)), due);
+    }
+
     private void cutAt() {
         check.part("Tick: i = a % (the first one's length + 1), j = i + b % 8");
-        check.due("i 0, j i", childCode(9, 9, streamFor(1, 9, 0, 0, false)), "21 1 2 3 4 5 6 7 8");
-        check.due("i 0, j i + 1", childCode(9, 9, streamFor(1, 9, 0, 1, false)), "21 1 2 3 4 5 6 7 8");
-        check.due("i 0, j i + 7", childCode(9, 9, streamFor(1, 9, 0, 7, false)), "21 51 52 53 54 55 56 7 8");
-        check.due("i 1, j i", childCode(9, 9, streamFor(1, 9, 1, 1, false)), "21 1 2 3 4 5 6 7 8");
-        check.due("i 1, j i + 1", childCode(9, 9, streamFor(1, 9, 1, 2, false)), "21 51 2 3 4 5 6 7 8");
-        check.due("i 1, j i + 7", childCode(9, 9, streamFor(1, 9, 1, 8, false)), "21 51 52 53 54 55 56 57 8");
-        check.due("i 8, the last byte", childCode(9, 9, streamFor(1, 9, 8, 9, false)), "21 1 2 3 4 5 6 7 58");
-        check.due("i 9, the length", childCode(9, 9, streamFor(1, 9, 9, 16, false)), "21 1 2 3 4 5 6 7 8");
-        check.due("i 9, the other is longer", childCode(9, 11, streamFor(1, 9, 9, 11, false)), "21 1 2 3 4 5 6 7 8 59 60");
+        child("i 0, j i", 9, 9, 0, 0, "21 1 2 3 4 5 6 7 8");
+        child("i 0, j i + 1", 9, 9, 0, 1, "21 1 2 3 4 5 6 7 8");
+        child("i 0, j i + 7", 9, 9, 0, 7, "21 51 52 53 54 55 56 7 8");
+        child("i 1, j i", 9, 9, 1, 1, "21 1 2 3 4 5 6 7 8");
+        child("i 1, j i + 1", 9, 9, 1, 2, "21 51 2 3 4 5 6 7 8");
+        child("i 1, j i + 7", 9, 9, 1, 8, "21 51 52 53 54 55 56 57 8");
+        child("i 8, the last byte", 9, 9, 8, 9, "21 1 2 3 4 5 6 7 58");
+        child("i 9, the length", 9, 9, 9, 16, "21 1 2 3 4 5 6 7 8");
+        child("i 9, the other is longer", 9, 11, 9, 11, "21 1 2 3 4 5 6 7 8 59 60");
         // i goes up to the first one's length, not the second one's.
         for (int a = 0; a < 12; a++) {
             int stream = a << 16;
@@ -550,15 +556,15 @@ public final class TickEdgesTest extends Ponds {
 
     private void asFarAsItHasThem() {
         check.part("Tick: the second one's from i to j - 1 (as far as it has them), the first one's from j on");
-        check.due("it has all", childCode(9, 5, streamFor(1, 9, 2, 5, false)), "21 1 52 53 54 5 6 7 8");
-        check.due("it has all but one", childCode(9, 4, streamFor(1, 9, 2, 5, false)), "21 1 52 53 5 6 7 8");
-        check.due("it has one", childCode(9, 3, streamFor(1, 9, 2, 5, false)), "21 1 52 5 6 7 8");
-        check.due("it has none", childCode(9, 2, streamFor(1, 9, 2, 5, false)), "21 1 5 6 7 8");
-        check.due("it ends before i", childCode(9, 1, streamFor(1, 9, 2, 5, false)), "21 1 5 6 7 8");
-        check.due("the first ends at j", childCode(5, 9, streamFor(1, 5, 2, 5, false)), "21 1 52 53 54");
-        check.due("the first ends behind j", childCode(6, 9, streamFor(1, 6, 2, 5, false)), "21 1 52 53 54 5");
-        check.due("the first ends before j", childCode(4, 9, streamFor(1, 4, 2, 5, false)), "21 1 52 53 54");
-        check.due("both end before j", childCode(4, 4, streamFor(1, 4, 2, 9, false)), "21 1 52 53");
+        child("it has all", 9, 5, 2, 5, "21 1 52 53 54 5 6 7 8");
+        child("it has all but one", 9, 4, 2, 5, "21 1 52 53 5 6 7 8");
+        child("it has one", 9, 3, 2, 5, "21 1 52 5 6 7 8");
+        child("it has none", 9, 2, 2, 5, "21 1 5 6 7 8");
+        child("it ends before i", 9, 1, 2, 5, "21 1 5 6 7 8");
+        child("the first ends at j", 5, 9, 2, 5, "21 1 52 53 54");
+        child("the first ends behind j", 6, 9, 2, 5, "21 1 52 53 54 5");
+        child("the first ends before j", 4, 9, 2, 5, "21 1 52 53 54");
+        child("both end before j", 4, 4, 2, 9, "21 1 52 53");
     }
 
     private void oneInFour() {
@@ -652,7 +658,8 @@ public final class TickEdgesTest extends Ponds {
         check.due("it is no more", pond.field(2, AGE), -1);
         pond.set(0, streamFor(1, 3, 0, 0, false));
         pond.tick(1);
-        check.due("the child has its number", pond.cell(1, 0, 2) + " " + pond.field(2, 15) + " " + pond.field(2, 16), "2 0 1");
+        check.due("the child has its number", pond.cell(1, 0, 2) + " " + pond.field(2, 15) + " " + pond.field(2, 16),
+                "2 0 1");
         check.due("it did not ask", pond.field(2, ASKED), 0);
         check.due("one birth", pond.total(BIRTHS), 1);
     }
@@ -694,8 +701,8 @@ public final class TickEdgesTest extends Ponds {
         pass(late, 199);
         late.code(0, 1, ASK);
         late.code(1, 1, ASK);
-        check.due("they have a child in their last tick", late.tick(1) + " " + late.total(BIRTHS) + " " + late.total(DEATHS),
-                "1 1 2");
+        check.due("they have a child in their last tick", late.tick(1) + " " + late.total(BIRTHS) + " "
+                + late.total(DEATHS), "1 1 2");
         check.due("its parents", late.field(2, 15) + " " + late.field(2, 16), "0 1");
         // 800 left of each, 10 paid, half given: 395, of which 250 become grain.
         check.due("what they leave", late.cell(1, 1, 0) + " " + late.cell(2, 1, 0) + " " + late.field(2, ENERGY) + " "
@@ -740,7 +747,8 @@ public final class TickEdgesTest extends Ponds {
             pond.animal(1, 1, 0, energy);
             pass(pond, 200);
             int left = energy < 450 ? energy - 200 : 250;
-            check.due(energy - 200 + " to none", pond.cell(1, 1, 0) + " " + pond.total(STORE), left + " " + (energy - left));
+            check.due(energy - 200 + " to none", pond.cell(1, 1, 0) + " " + pond.total(STORE),
+                    left + " " + (energy - left));
         }
     }
 }

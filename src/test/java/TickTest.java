@@ -328,10 +328,7 @@ public final class TickTest extends Ponds {
         check.due("tick", pond.tick(1), 3);
         check.due("lesser", pond.field(0, 11), 45);
         check.due("greater", pond.field(1, 11), 36);
-        int[] fields = {0, 0, 0, 0, 0, 0, 0, 0, 1, 0, 1, 80, 0, 0, 1, 0, 1, 1, 0};
-        for (int w = 0; w < fields.length; w++) {
-            check.due("child's field " + w, pond.field(2, w), fields[w]);
-        }
+        fields(pond, 2, 0, 0, 0, 0, 0, 0, 0, 0, 1, 0, 1, 80, 0, 0, 1, 0, 1, 1, 0);
         check.due("in its cell", pond.cell(1, 0, 2), 2);
         check.due("STORE", pond.total(2), 22);
         check.due("births", pond.total(5), 1);
