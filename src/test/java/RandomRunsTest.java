@@ -154,7 +154,9 @@ public final class RandomRunsTest {
                 break;
             default:
                 int ticks = random.nextInt(3) > 0 ? some(0, 5) : some(0, 50);
+                int energy = plain.total(3);
                 same("tick " + ticks, () -> pond.tick(ticks), () -> plain.tick(ticks));
+                same("total 3, never made or lost by time", () -> pond.total(3), () -> energy);
                 break;
         }
     }
